@@ -1,0 +1,76 @@
+import java.util.Random;
+
+/** Long runs of calls of a fixed choice, each answer and the whole state compared with the model's. */
+public final class ModelTest {
+    private static final int RUNS = 1500;
+    private static final int CALLS = 512;
+
+    private static final Check check = new Check();
+
+    public static void main(String[] args) {
+        for (int run = 0; run < RUNS; run++) {
+            compare(run, new Random(run));
+        }
+        check.end();
+    }
+
+    private static void compare(int run, Random dice) {
+        JournalShelf shelf = new JournalShelf();
+        DiskModel model = new DiskModel();
+        // Few slots make the same ones come again; many make the flush write many blocks.
+        int slots = new int[] {3, 12, 60, 212}[run % 4];
+        int rare = 3 + run % 40;
+        for (int call = 0; call < CALLS; call++) {
+            String when = "run " + run + ", call " + call + ": ";
+            step(when, dice, shelf, model, slots, rare);
+            if (call % 16 == 15) {
+                compareState(when, shelf, model);
+            }
+        }
+    }
+
+    private static void step(String when, Random dice, JournalShelf shelf, DiskModel model, int slots, int rare) {
+        int kind = dice.nextInt(rare + 8);
+        if (kind == 0) {
+            int mask = mask(dice);
+            int part = dice.nextInt(520) - 10;
+            check.due(when + "crash(" + mask + ", " + part + ")", shelf.crash(mask, part), model.crash(mask, part));
+        } else if (kind == 1) {
+            check.due(when + "flush()", shelf.flush(), model.flush());
+        } else if (kind == 2) {
+            check.due(when + "forget()", shelf.forget(), model.forget());
+        } else if (kind <= 5) {
+            check.due(when + "commit()", shelf.commit(), model.commit());
+        } else if (kind == 6) {
+            int slot = dice.nextInt(slots + 4) - 2;
+            check.due(when + "get(" + slot + ")", shelf.get(slot), model.get(slot));
+        } else {
+            int slot = dice.nextInt(50) == 0 ? dice.nextInt() : dice.nextInt(slots);
+            int value = dice.nextInt(9) == 0 ? dice.nextInt() : dice.nextInt(5);
+            check.due(when + "change(" + slot + ", " + value + ")", shelf.change(slot, value), model.change(slot, value));
+        }
+        for (int what = -1; what <= 6; what++) {
+            check.due(when + "count(" + what + ")", shelf.count(what), model.count(what));
+        }
+    }
+
+    private static int mask(Random dice) {
+        switch (dice.nextInt(4)) {
+            case 0:
+                return dice.nextInt();
+            case 1:
+                return ~(1 << dice.nextInt(32));
+            case 2:
+                return ~(1 << dice.nextInt(32) | 1 << dice.nextInt(32));
+            default:
+                return -1;
+        }
+    }
+
+    private static void compareState(String when, JournalShelf shelf, DiskModel model) {
+        for (int slot = 0; slot < 212; slot += 1 + slot / 12) {
+            check.due(when + "get(" + slot + ")", shelf.get(slot), model.get(slot));
+        }
+        check.due(when + "torn()", shelf.torn(), 0);
+    }
+}
