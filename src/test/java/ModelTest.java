@@ -1,9 +1,10 @@
 import java.util.Random;
 
-/** Long runs of calls of a fixed choice, each answer and the whole state compared with the model's. */
+/** Runs of 512 calls of a fixed choice, each answer compared with the model's. */
 public final class ModelTest {
-    private static final int RUNS = 1500;
-    private static final int CALLS = 512;
+    private static final int RUNS = 8000;
+    // Each step is two calls; the calls that are left of the 512 look at the state in the end.
+    private static final int STEPS = 200;
     // The kinds of calls; commit has those between, too, and change all above.
     private static final int CRASH = 0, FLUSH = 1, FORGET = 2, COMMIT = 5, GET = 6, CHANGE = 7;
 
@@ -23,14 +24,13 @@ public final class ModelTest {
         int slots = new int[] {3, 12, 60, 212}[run % 4];
         int rare = 3 + run % 40;
         boolean heavy = run / 4 % 2 == 1;
-        for (int call = 0; call < CALLS; call++) {
-            String when = "run " + run + ", call " + call + ": ";
+        for (int step = 0; step < STEPS; step++) {
+            String when = "run " + run + ", step " + step + ": ";
             int kind = dice.nextInt(rare + 8);
             step(when, heavy ? heavyKind(dice, kind, model) : kind, dice, shelf, model, slots);
-            if (call % 16 == 15) {
-                compareState(when, shelf, model);
-            }
+            look(when, dice, shelf, model, slots);
         }
+        compareState("run " + run + ", in the end: ", shelf, model);
     }
 
     // Heavy runs let deeds grow long and crash late, so that a crash meets more blocks than the mask has bits.
@@ -56,16 +56,25 @@ public final class ModelTest {
         } else if (kind <= COMMIT) {
             check.due(when + "commit()", shelf.commit(), model.commit());
         } else if (kind == GET) {
-            int slot = dice.nextInt(slots + 4) - 2;
-            check.due(when + "get(" + slot + ")", shelf.get(slot), model.get(slot));
+            compareValue(when, dice.nextInt(slots + 4) - 2, shelf, model);
         } else {
             int slot = dice.nextInt(50) == 0 ? 200 + dice.nextInt(24) : dice.nextInt(slots);
             int value = dice.nextInt(9) == 0 ? dice.nextInt() : dice.nextInt(5);
             check.due(when + "change(" + slot + ", " + value + ")", shelf.change(slot, value), model.change(slot, value));
         }
-        for (int what = -1; what <= 6; what++) {
-            check.due(when + "count(" + what + ")", shelf.count(what), model.count(what));
+    }
+
+    private static void look(String when, Random dice, JournalShelf shelf, DiskModel model, int slots) {
+        if (dice.nextInt(3) == 0) {
+            compareValue(when, dice.nextInt(slots), shelf, model);
+            return;
         }
+        int what = dice.nextInt(8) - 1;
+        check.due(when + "count(" + what + ")", shelf.count(what), model.count(what));
+    }
+
+    private static void compareValue(String when, int slot, JournalShelf shelf, DiskModel model) {
+        check.due(when + "get(" + slot + ")", shelf.get(slot), model.get(slot));
     }
 
     private static int mask(Random dice) {
@@ -82,8 +91,8 @@ public final class ModelTest {
     }
 
     private static void compareState(String when, JournalShelf shelf, DiskModel model) {
-        for (int slot = 0; slot < 212; slot += 1 + slot / 12) {
-            check.due(when + "get(" + slot + ")", shelf.get(slot), model.get(slot));
+        for (int slot = 0; slot < 212; slot += slot < 60 ? 1 : 3) {
+            compareValue(when, slot, shelf, model);
         }
         check.due(when + "torn()", shelf.torn(), 0);
     }

@@ -38,17 +38,11 @@ public final class PromisesTest {
     }
 
     private static void counts(String when, JournalShelf shelf, int... want) {
-        for (int what = 0; what < want.length; what++) {
-            due(when + ": count(" + what + ")", shelf.count(what), want[what]);
-        }
+        check.counts(when, shelf, want);
     }
 
-    /** A deed that changes the slots from..from+length-1, each to its own number plus add. */
     private static void deed(JournalShelf shelf, int from, int length, int add) {
-        for (int i = 0; i < length; i++) {
-            due("change " + (from + i), shelf.change(from + i, from + i + add), i + 1);
-        }
-        due("commit of " + length, shelf.commit(), length);
+        check.deed(shelf, from, length, add);
     }
 
     private static void newObject() {
